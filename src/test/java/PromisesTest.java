@@ -182,6 +182,15 @@ public final class PromisesTest {
         checks.dueByMode(byMode(ONE, ONE - 1, ONE, ONE - 1), INEXACT, "add", ONE, LEAST | SIGN);
         checks.dueByMode(byMode(ONE, ONE - 1, ONE, ONE - 1), INEXACT, "add", LEAST | SIGN, ONE);
 
+        // However far apart the parts are, the lesser one is not lost.
+        for (int exponent = 1; exponent < 103; exponent++) {
+            int small = exponent << 23 | 0x00555555;
+            checks.dueByMode(byMode(ONE, ONE, ONE + 1, ONE), INEXACT, "add", ONE, small);
+            checks.dueByMode(byMode(ONE, ONE, ONE + 1, ONE), INEXACT, "add", small, ONE);
+            checks.dueByMode(byMode(GREATEST | SIGN, (GREATEST | SIGN) - 1, (GREATEST | SIGN) - 1, GREATEST | SIGN),
+                INEXACT, "add", GREATEST | SIGN, small);
+        }
+
         zerosOfSums();
         checks.dueInEveryMode(INFINITE, 0, "add", INFINITE, INFINITE);
         checks.dueInEveryMode(MINUS_INFINITE, 0, "add", MINUS_INFINITE, MINUS_INFINITE);
@@ -477,6 +486,11 @@ public final class PromisesTest {
         wholeByMode(1.5, 2, 1, 2, 1);
         checks.dueByMode(byMode(ONE, ZERO, ONE, ZERO), INEXACT, "whole", HALF + 1);
         checks.dueByMode(byMode(ZERO, ZERO, ONE, ZERO), INEXACT, "whole", HALF - 1);
+        for (int exponent = 0; exponent < 126; exponent++) {
+            int small = exponent << 23 | 0x00555555;
+            checks.dueByMode(byMode(ZERO, ZERO, ONE, ZERO), INEXACT, "whole", small);
+            checks.dueByMode(byMode(0, 0, 0, -1), INEXACT, "toInt", small | SIGN);
+        }
         // The least ones: no underflow, and the sign stays.
         checks.dueByMode(byMode(ZERO, ZERO, ONE, ZERO), INEXACT, "whole", LEAST);
         checks.dueByMode(byMode(SIGN, SIGN, SIGN, MINUS_ONE), INEXACT, "whole", LEAST | SIGN);
