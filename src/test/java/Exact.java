@@ -31,7 +31,8 @@ final class Exact {
     static Exact ofPattern(int a) {
         int exponent = a >>> 23 & 255;
         long count = exponent == 0 ? a & 0x7FFFFF : a & 0x7FFFFF | 0x800000;
-        return fraction(BigInteger.valueOf(a < 0 ? -count : count), BigInteger.ONE).timesPower(Math.max(exponent, 1) - 150);
+        return fraction(BigInteger.valueOf(a < 0 ? -count : count), BigInteger.ONE).timesPower(Math.max(exponent,
+            1) - 150);
     }
 
     int signum() {
